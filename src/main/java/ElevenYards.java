@@ -481,7 +481,7 @@ public final class ElevenYards {
     private static final class Reader {
         static final int END = 0, TEST = 1, NOT = 2, AND = 3, OR = 4, GAIN = 5;
         static final int PRESS = 3;
-        private static final int CLAUSES_MOST = 8, DEPTH_MOST = 4;
+        private static final int CLAUSES_MOST = 8, DEPTH_MOST = 4, FIGURES_MOST = 2;
 
         final int[] text = new int[TEXT_MOST];
         final int[] codes = new int[TEXT_MOST];
@@ -585,12 +585,18 @@ public final class ElevenYards {
         }
 
         private int passNumber() {
-            int n = passOneOf("0123456789");
-            if (!fault && place < length && text[place] >= '0' && text[place] <= '9') {
+            int from = place;
+            int n = 0;
+            for (int i = 0; i < FIGURES_MOST && seesFigure(); i++) {
                 n = n * 10 + (text[place] - '0');
                 place++;
             }
+            fault = fault || place == from;
             return n;
+        }
+
+        private boolean seesFigure() {
+            return !fault && place < length && text[place] >= '0' && text[place] <= '9';
         }
 
         private void make(int code, int first, int second, int n) {
@@ -952,8 +958,8 @@ public final class ElevenYards {
             reduce();
         }
 
-        int scoreMillionths(Player kicker, Player keeper) {
-            meet(kicker, keeper);
+        /** CHANCE, by the WEIGHTS of those who met last. */
+        int millionths() {
             weighGoals(0);
             return below > 0 ? (int) (above * MILLION / below) : 0;
         }
@@ -1153,7 +1159,8 @@ public final class ElevenYards {
             }
             for (int lead = -kicked - second; lead <= kicked; lead++) {
                 duel.setState(NEVER, NEVER, 2 * kicked + second, LEVEL + lead);
-                chances[second][chanceIndex(place, kicked, lead)] = duel.scoreMillionths(kicker, keeper);
+                duel.meet(kicker, keeper);
+                chances[second][chanceIndex(place, kicked, lead)] = duel.millionths();
             }
         }
 

@@ -219,6 +219,9 @@ public final class PromisesTest {
         int[][] pure = {{0, 20, 0, 1200}, {0, 20, 0, 1200}};
         for (int i = 0; i < 8; i++) due("pure", even.rest(i / 4, i % 4), pure[i / 4][i % 4]);
         due("no gap", even.gap(), 0);
+        for (int keeper = 0; keeper < 3; keeper++) even.table(0, keeper, 99);
+        due("all to the left", even.rest(0, 0), 20);
+        due("nobody keeps that", even.rest(1, 3), 1980);
     }
 
     private static void weights(ElevenYards x, String name, int kicker, int keeper, int who, int[] state, int... want) {
@@ -232,7 +235,7 @@ public final class PromisesTest {
         promise = "promise 10, rules";
         int[] state = {0, 2, 7, 12};
         Object[][] tests = {
-            {"l=0", 1, 0}, {"l=2", 0, 1}, {"o=2", 1, 0}, {"o=0", 0, 1}, {"t=7", 1, 1}, {"t<7", 0, 0}, {"t<8", 1, 1},
+            {"l=0", 1, 0}, {"l<0|l=0", 1, 0}, {"l=2", 0, 1}, {"o=2", 1, 0}, {"o=0", 0, 1}, {"t=7", 1, 1}, {"t<7", 0, 0}, {"t<8", 1, 1},
             {"t>7", 0, 0}, {"t>6", 1, 1}, {"d=12", 1, 0}, {"d=8", 0, 1}, {"d>10", 1, 0}, {"d<10", 0, 1}, {"!d<10", 1, 0},
             {"l=0&d=12", 1, 0}, {"l=0&d=11", 0, 0}, {"l=1|d=12", 1, 0}, {"l=0|d=1&d=2", 1, 0}, {"(l=0|d=1)&d=2", 0, 0},
             {"d=2&d=1|l=0", 1, 0}, {"!l=0|d=12", 1, 1}, {"!(l=0|d=12)", 0, 1}, {"!!l=0", 1, 0},
@@ -535,6 +538,12 @@ public final class PromisesTest {
         x = forShootOut("l=3&o=3&t=9");
         x.team(1, 4, 1);
         due("l and o are 3", x.win(0), 995000);
+        x = forShootOut("t=8");
+        for (int i = 0; i < 9; i++) x.table(i / 3, i % 3, i / 3 == i % 3 ? 0 : 100);
+        x.player(2, 0, 0);
+        for (int i = 0; i < 5; i++) x.team(1, i, 2);
+        // A and both keepers go left, B's kickers 6, 7, 7: A never scores, B seven times of ten. 0.3, five times, is drawn.
+        due("the chances are the odds", x.win(0), 1215);
         due("what", x.win(2), -1000001);
         due("what", x.win(-1), -1000001);
         for (int gap = 0; gap < 12; gap++) {
@@ -574,7 +583,9 @@ public final class PromisesTest {
         x.player(0, 0, 0);
         for (int i = 0; i < 12; i++) x.team(i / 6, i % 6, 0);
         due("won", x.at(10, 5, 4), 1000000);
+        due("won", x.at(10, 1, 0), 1000000);
         due("drawn", x.at(10, 3, 3), 500000);
+        due("drawn", x.at(10, 0, 0), 500000);
         due("lost", x.at(10, 0, 5), 0);
         due("B's last kick", x.at(9, 1, 1), 250000);
         due("B's last kick", x.at(9, 2, 1), 750000);
@@ -617,6 +628,10 @@ public final class PromisesTest {
         x.team(0, 0, 1);
         int[] third = {1, 2, 0, 3, 4};
         for (int i = 0; i < 5; i++) due("second or third", x.order(i), third[i]);
+        x = forShootOut("t>0&t<8");
+        x.team(0, 2, 1);
+        int[] last = {0, 1, 3, 4, 2};
+        for (int i = 0; i < 5; i++) due("first or last: of several the first", x.order(i), last[i]);
         due("i", x.order(5), -1000001);
         due("i", x.order(-2), -1000001);
         due("NONE ahead of STATE", new ElevenYards().order(5), -1000001);
@@ -648,12 +663,16 @@ public final class PromisesTest {
         judged("1010109", 0, 1);
         judged("10101" + (char) ('0' - 1), 0, -15);
         judged("99101010", 2, 1);
+        judged("9910", 2, 1002);
         judged("99101010", 8, 1000);
         judged("99101010", 9, 1000);
         judged("99101010", MAX, 1000);
         judged("99101010", -1, 1000);
         judged("99101010", MIN, 1000);
         judged("", 0, 1000);
+        judged("0".repeat(60), 50, 3);
+        judged("0".repeat(60), 51, 1009);
+        judged("0".repeat(60), 59, 1001);
         ElevenYards x = new ElevenYards();
         due("nothing", x.judge(0, 0), 1000);
         for (int sort = 1; sort < 5; sort++) {
@@ -670,15 +689,18 @@ public final class PromisesTest {
         ElevenYards x = withTable(0, 100);
         rule(x, "go 0 1 t<50");
         x.player(0, 0, 0);
+        x.player(1, 0, 0);
         x.team(0, 3, 0);
+        x.team(0, 0, 1);
         x.kick(0, 0, true);
         x.kick(2, 0, false);
         due("undo without", x.undo(), STATE);
         due("image", x.image(), 2);
         x.table(0, 0, 9);
         x.kick(1, 1, true);
-        x.player(1, 0, 0);
+        x.player(2, 0, 0);
         x.team(0, 3, 1);
+        x.team(0, 0, 0);
         x.team(1, 5, 1);
         x.tape(2, 0, 1);
         feed(x, "go");
@@ -689,7 +711,8 @@ public final class PromisesTest {
         due("kicks", x.does(1), -5);
         due("a member", x.team(0, 3, 0), 0);
         due("a keeper", x.team(1, 5, 0), -5);
-        due("players stay", x.count(0), 2);
+        due("the first member", x.team(0, 0, 0), 1);
+        due("players stay", x.count(0), 3);
         due("tapes stay", x.read(2, 0), 0);
         due("the text stays", x.count(3), 2);
         x.clear();
