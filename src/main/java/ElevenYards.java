@@ -632,6 +632,7 @@ public final class ElevenYards {
 
         /** Turns what his RULE gives each SIDE into his KIND's WEIGHTS; last: where he went, reply: NO_SIDE if he can't know. */
         void weigh(int[] sides, int[] mix, int last, int reply) {
+            // Of KIND 0 what the RULE gives is all.
         }
 
         int looks(int x) {
