@@ -2,12 +2,14 @@ import java.util.Random;
 
 /** Long random runs on new objects, each call's answer against the Model's. */
 public final class ModelTest {
-    private static final int RUNS = 200, CALLS = 512;
+    // An object has 512 calls; one step of a run makes 101 at the most.
+    private static final int RUNS = 250, CALLS = 512 - 101;
 
     private final Random random;
     private final ElevenYards yards = new ElevenYards();
     private final Model model = new Model();
     private String call = "";
+    private int calls = 0;
 
     private ModelTest(long seed) {
         random = new Random(seed);
@@ -25,7 +27,7 @@ public final class ModelTest {
     private boolean runs(int seed) {
         // Most runs begin with what makes the rest worth asking; some begin with nothing at all.
         if (seed % 8 != 0 && !prepares(seed)) return false;
-        for (int i = 0; i < CALLS; i++) {
+        while (calls < CALLS) {
             if (!agrees(seed)) return false;
         }
         return true;
@@ -120,6 +122,7 @@ public final class ModelTest {
     }
 
     private boolean same(int seed, String what, long got, long due) {
+        calls++;
         if (got != due) System.out.println("seed " + seed + ": " + what + " answered " + got + ", due is " + due);
         return got == due;
     }
@@ -215,6 +218,7 @@ public final class ModelTest {
     private long[] feedOrRule() {
         if (random.nextBoolean()) {
             String text = ruleText();
+            calls += text.length();
             for (int i = 0; i < text.length(); i++) {
                 int got = yards.feed(text.charAt(i), 1), due = model.feed(text.charAt(i), 1);
                 if (got != due) return pair(got, due);
@@ -234,6 +238,7 @@ public final class ModelTest {
         long v = random.nextInt(8) == 0 ? random.nextLong() : random.nextInt(2);
         int i = near(0, 11);
         say("item", tape, i, v);
+        calls++;
         long[] answers = pair(yards.item(tape, i, v), model.item(tape, i, v));
         return answers[0] == answers[1] ? pair(yards.read(tape, i), model.read(tape, i)) : answers;
     }

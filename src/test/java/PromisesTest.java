@@ -1,35 +1,5 @@
 /** For each promise calls with answers worked out by hand: ordinary ones, the document's edges, wrong inputs. */
-public final class PromisesTest {
-    private static final int NONE = -1, BAD = -2, STATE = -3, FULL = -4, NOTHING = -11, CAST = -12, PLACE = -13, SIZE = -14;
-    private static final long NO = Long.MIN_VALUE;
-    private static final int MIN = Integer.MIN_VALUE, MAX = Integer.MAX_VALUE;
-
-    private static int wrong = 0;
-    private static String promise = "";
-
-    private static void due(String call, long got, long want) {
-        if (got != want) {
-            wrong++;
-            System.out.println(promise + ": " + call + " answered " + got + ", due is " + want);
-        }
-    }
-
-    private static void feed(ElevenYards x, String text) {
-        for (int i = 0; i < text.length(); i++) x.feed(text.charAt(i), 1);
-    }
-
-    private static int rule(ElevenYards x, String text) {
-        feed(x, text);
-        return x.rule();
-    }
-
-    /** A new object whose table is same where both go to one side, apart elsewhere. */
-    private static ElevenYards withTable(int same, int apart) {
-        ElevenYards x = new ElevenYards();
-        for (int i = 0; i < 9; i++) x.table(i / 3, i % 3, i / 3 == i % 3 ? same : apart);
-        return x;
-    }
-
+public final class PromisesTest extends Checks {
     public static void main(String[] args) {
         newObject();
         table();
@@ -61,11 +31,11 @@ public final class PromisesTest {
         count();
         tapes();
         shift();
-        if (wrong > 0) System.exit(1);
+        end();
     }
 
     private static void newObject() {
-        promise = "promise 1";
+        about("promise 1");
         ElevenYards x = new ElevenYards();
         for (int what = 0; what < 5; what++) due("count " + what, x.count(what), 0);
         for (int i = 0; i < 9; i++) due("told", x.told(i / 3, i % 3), 50);
@@ -83,7 +53,7 @@ public final class PromisesTest {
     }
 
     private static void table() {
-        promise = "promises 2, 3";
+        about("promises 2, 3");
         ElevenYards x = new ElevenYards();
         due("table", x.table(0, 2, 0), 50);
         due("table", x.table(0, 2, 100), 0);
@@ -102,7 +72,7 @@ public final class PromisesTest {
     }
 
     private static void feed() {
-        promise = "promise 4";
+        about("promise 4");
         ElevenYards x = new ElevenYards();
         due("none", x.feed(-1, 0), 0);
         due("go 0", x.feed(0x676f2030, 4), 4);
@@ -125,7 +95,7 @@ public final class PromisesTest {
     }
 
     private static void ruleTexts() {
-        promise = "promise 5, texts";
+        about("promise 5, texts");
         String[] rules = {
             "go 0 1 l=3", "go 2 99 o<0|t>99", "press 00 d>20&!l=1", "go 1 7 ((((l=1))))", "press 7 !!!!l=1",
             "go 1 1 !(!(l=1&t=2)|o=3)", "go 1 1 (l=1)&(((o=1)))|!!(d<9)", "go 1 5 l=99;press 3 t<50",
@@ -135,7 +105,7 @@ public final class PromisesTest {
     }
 
     private static void ruleFaults() {
-        promise = "promise 5, faults";
+        about("promise 5, faults");
         Object[][] faults = {
             {"", 0}, {"x", 0}, {"G", 0}, {" go", 0}, {"g", 1}, {"gp", 1}, {"go", 2}, {"go0", 2}, {"go ", 3}, {"go  ", 3},
             {"go 3 1 l=0", 3}, {"go 10", 4}, {"go 1 ", 5}, {"go 1 x", 5}, {"go 1 1", 6}, {"go 1 1l", 6}, {"go 1 12", 7},
@@ -162,7 +132,7 @@ public final class PromisesTest {
     }
 
     private static void ruleCounts() {
-        promise = "promise 5, numbers";
+        about("promise 5, numbers");
         ElevenYards x = new ElevenYards();
         due("a fault has no number", rule(x, "go"), -12);
         for (int i = 0; i < 7; i++) due("rule", rule(x, "go 1 1 l=1"), i);
@@ -173,7 +143,7 @@ public final class PromisesTest {
     }
 
     private static void player() {
-        promise = "promises 6, 7";
+        about("promises 6, 7");
         ElevenYards x = new ElevenYards();
         due("no rule", x.player(0, 0, 0), NONE);
         rule(x, "go 1 1 l=1");
@@ -199,7 +169,7 @@ public final class PromisesTest {
     }
 
     private static void rest() {
-        promise = "promises 8, 9";
+        about("promises 8, 9");
         ElevenYards x = withTable(0, 100);
         // The kicker's most likely side decides: 7 of 20. The keeper's least likely one: 6 of 20.
         int[][] want = {{6, 7, 7, 1300}, {6, 6, 8, 1400}};
@@ -232,7 +202,7 @@ public final class PromisesTest {
     }
 
     private static void weightsByRule() {
-        promise = "promise 10, rules";
+        about("promise 10, rules");
         int[] state = {0, 2, 7, 12};
         Object[][] tests = {
             {"l=0", 1, 0}, {"l<0|l=0", 1, 0}, {"l=2", 0, 1}, {"o=2", 1, 0}, {"o=0", 0, 1}, {"t=7", 1, 1}, {"t<7", 0, 0}, {"t<8", 1, 1},
@@ -256,7 +226,7 @@ public final class PromisesTest {
     }
 
     private static void weightsByKind() {
-        promise = "promise 10, kinds";
+        about("promise 10, kinds");
         ElevenYards x = withTable(0, 100);
         rule(x, "go 0 80 t<50;go 2 20 t<50");
         for (int kind = 0; kind < 7; kind++) x.player(kind, 0, 0);
@@ -280,7 +250,7 @@ public final class PromisesTest {
     }
 
     private static void weightsThatHeed() {
-        promise = "promise 10, kinds that heed";
+        about("promise 10, kinds that heed");
         ElevenYards x = withTable(0, 100);
         rule(x, "go 0 10 t<50;go 2 20 t<50");
         for (int kind = 0; kind < 7; kind++) x.player(kind, 0, 0);
@@ -306,7 +276,7 @@ public final class PromisesTest {
     }
 
     private static void weightRefusals() {
-        promise = "promises 10, 11, refusals";
+        about("promises 10, 11, refusals");
         ElevenYards x = new ElevenYards();
         rule(x, "go 0 10 t<50");
         x.player(0, 0, 0);
@@ -331,7 +301,7 @@ public final class PromisesTest {
     }
 
     private static void reply() {
-        promise = "promise 11";
+        about("promise 11");
         ElevenYards x = withTable(0, 100);
         rule(x, "go 0 10 t<50;go 2 20 t<50");
         rule(x, "go 0 10 t<50;go 1 10 t<50;go 2 10 t<50");
@@ -346,11 +316,6 @@ public final class PromisesTest {
         due("all 0: the middle", x.reply(0, 0, 1, 3, 3, 50, 10), 1);
         // WAITING kicks 40, 0, 20 (its reply is the middle): the keeper goes left.
         due("to one who waits", x.reply(3, 0, 1, 3, 3, 0, 10), 0);
-    }
-
-    private static void fraction(String name, long above, long below, long wantAbove, long wantBelow) {
-        due(name + " above", above, wantAbove);
-        due(name + " below", below, wantBelow);
     }
 
     private static void odds(ElevenYards x, String name, int kicker, int keeper, int what, int t, long above, long below) {
@@ -369,7 +334,7 @@ public final class PromisesTest {
     }
 
     private static void odds() {
-        promise = "promise 12, odds";
+        about("promise 12, odds");
         ElevenYards x = forOdds();
         odds(x, "left against 6, 6, 8", 0, 1, 0, 0, 7, 10);
         odds(x, "half pressed", 0, 1, 0, 1, 7, 20);
@@ -389,7 +354,7 @@ public final class PromisesTest {
     }
 
     private static void bottle() {
-        promise = "promise 12, bottle";
+        about("promise 12, bottle");
         ElevenYards x = forOdds();
         odds(x, "a mixed keeper's", 0, 1, 1, 0, -7, 10);
         odds(x, "pressed", 0, 1, 1, 1, -7, 20);
@@ -401,7 +366,7 @@ public final class PromisesTest {
     }
 
     private static void leak() {
-        promise = "promise 13";
+        about("promise 13");
         ElevenYards x = forOdds();
         fraction("none", x.leak(0, 1, 0, 0, 10, 0), x.leak(0, 1, 0, 0, 10, 1), 7, 10);
         fraction("half", x.leak(0, 1, 50, 0, 10, 0), x.leak(0, 1, 50, 0, 10, 1), 7, 20);
@@ -430,7 +395,7 @@ public final class PromisesTest {
     }
 
     private static void kicks() {
-        promise = "promises 14 to 17";
+        about("promises 14 to 17");
         ElevenYards x = new ElevenYards();
         due("worst of none", x.shows(0), 0);
         due("runs of none", x.shows(1), 0);
@@ -474,7 +439,7 @@ public final class PromisesTest {
     }
 
     private static void likely() {
-        promise = "promise 18";
+        about("promise 18");
         likely("", 1, 1);
         likely("1", 1, 1);
         likely("002", 1, 1);
@@ -490,7 +455,7 @@ public final class PromisesTest {
     }
 
     private static void team() {
-        promise = "promise 19";
+        about("promise 19");
         ElevenYards x = new ElevenYards();
         due("no player", x.team(0, 0, 0), NONE);
         rule(x, "go 0 1 t<50");
@@ -521,7 +486,7 @@ public final class PromisesTest {
     }
 
     private static void win() {
-        promise = "promise 20, win";
+        about("promise 20, win");
         due("all score", forShootOut("t>1").win(0), 500000);
         ElevenYards x = forShootOut("t>1");
         x.team(0, 4, 1);
@@ -560,7 +525,7 @@ public final class PromisesTest {
     }
 
     private static void first() {
-        promise = "promise 20, first";
+        about("promise 20, first");
         due("all score", forShootOut("t>1").win(1), 0);
         ElevenYards x = forShootOut("t=8");
         x.team(0, 4, 1);
@@ -577,7 +542,7 @@ public final class PromisesTest {
     }
 
     private static void at() {
-        promise = "promise 21";
+        about("promise 21");
         ElevenYards x = withTable(50, 50);
         rule(x, "go 0 1 t<50");
         x.player(0, 0, 0);
@@ -615,7 +580,7 @@ public final class PromisesTest {
     }
 
     private static void order() {
-        promise = "promise 22";
+        about("promise 22");
         ElevenYards x = forShootOut("t>1");
         x.team(0, 4, 1);
         int[] want = {4, 0, 1, 2, 3};
@@ -646,7 +611,7 @@ public final class PromisesTest {
     }
 
     private static void judge() {
-        promise = "promise 23";
+        about("promise 23");
         judged("101010", 0, 1);
         judged("010101", 0, 2);
         judged("10101", 0, 1005);
@@ -685,7 +650,7 @@ public final class PromisesTest {
     }
 
     private static void imageAndUndo() {
-        promise = "promises 24, 25";
+        about("promises 24, 25");
         ElevenYards x = withTable(0, 100);
         rule(x, "go 0 1 t<50");
         x.player(0, 0, 0);
@@ -734,7 +699,7 @@ public final class PromisesTest {
     }
 
     private static void acts() {
-        promise = "promises 26, 27";
+        about("promises 26, 27");
         ElevenYards x = new ElevenYards();
         rule(x, "go 0 1 t<50");
         int[] v = {0, 1, 2, 0, 1, 2, 1};
@@ -771,7 +736,7 @@ public final class PromisesTest {
     }
 
     private static void taken() {
-        promise = "promise 28";
+        about("promise 28");
         ElevenYards x = new ElevenYards();
         rule(x, "go 0 1 t<50");
         for (int kind = 0; kind < 7; kind++) x.player(kind, 0, 0);
@@ -789,7 +754,7 @@ public final class PromisesTest {
     }
 
     private static void count() {
-        promise = "promise 29";
+        about("promise 29");
         ElevenYards x = new ElevenYards();
         rule(x, "go 0 1 t<50");
         rule(x, "go 0 1 t<50");
@@ -804,7 +769,7 @@ public final class PromisesTest {
     }
 
     private static void tapes() {
-        promise = "promises 30 to 32";
+        about("promises 30 to 32");
         ElevenYards x = new ElevenYards();
         long v = 0x8899aabbccddeeffL;
         long[] want = {-1, (short) 0xeeff, 0xccddeeff, v, 1};
@@ -851,7 +816,7 @@ public final class PromisesTest {
     }
 
     private static void shift() {
-        promise = "promise 33";
+        about("promise 33");
         ElevenYards x = new ElevenYards();
         x.tape(0, 2, 5);
         x.tape(1, 2, 3);
