@@ -294,6 +294,10 @@ public final class ShootOutEdgesTest extends Checks {
         order(even(0), "none scores", 500000, 0, 1, 2, 3, 4);
         order(sureBut("t>50"), "all score", 500000, 0, 1, 2, 3, 4);
         order(even(50), "all alike", even(50).win(0), 0, 1, 2, 3, 4);
+        ElevenYards sure = scoringLeft("go 0 1 t<50");
+        order(sure, "all are won", 1000000, 0, 1, 2, 3, 4);
+        for (int i = 0; i < 12; i++) sure.team(i / 6, i % 6, 1 - i / 6);
+        order(sure, "all are lost", 0, 0, 1, 2, 3, 4);
         for (int place = 0; place < 5; place++) {
             int[] o = othersThan(place);
             ElevenYards x = sureBut("!t=4");
