@@ -1,6 +1,4 @@
 import java.io.IOException;
-import java.net.URL;
-import java.net.URLClassLoader;
 import java.nio.charset.StandardCharsets;
 import java.nio.file.Files;
 import java.nio.file.Path;
@@ -10,7 +8,6 @@ import java.util.Set;
 import java.util.TreeSet;
 import java.util.regex.Matcher;
 import java.util.regex.Pattern;
-import javax.tools.JavaCompiler;
 import javax.tools.ToolProvider;
 
 /** README.md: its lines of use answer as they say, and its table has each call of the face; run in the project's folder. */
@@ -63,20 +60,18 @@ public final class ReadmeTest extends Checks {
         return source.append("return java.util.Arrays.copyOf(row, rowed);\n}\n}\n").toString();
     }
 
+    /** Compiled beside the tests' own classes: that folder is there, and may be written. */
     private static long[] answers(String source) throws Exception {
-        Path folder = Files.createTempDirectory("readme");
+        String folder = System.getProperty("java.class.path");
+        Path file = Path.of(folder, "Example.java");
         try {
-            Path file = Files.writeString(folder.resolve("Example.java"), source);
-            JavaCompiler compiler = ToolProvider.getSystemJavaCompiler();
-            String path = System.getProperty("java.class.path");
-            due("javac", compiler.run(null, null, null, "-cp", path, "-d", folder.toString(), file.toString()), 0);
-            try (URLClassLoader loader = new URLClassLoader(new URL[] {folder.toUri().toURL()})) {
-                return (long[]) loader.loadClass("Example").getMethod("answers").invoke(null);
-            }
+            Files.writeString(file, source);
+            int code = ToolProvider.getSystemJavaCompiler().run(null, null, null, "-cp", folder, "-d", folder, file.toString());
+            due("javac", code, 0);
+            return (long[]) Class.forName("Example").getMethod("answers").invoke(null);
         } finally {
-            Files.deleteIfExists(folder.resolve("Example.class"));
-            Files.deleteIfExists(folder.resolve("Example.java"));
-            Files.deleteIfExists(folder);
+            Files.deleteIfExists(file);
+            Files.deleteIfExists(Path.of(folder, "Example.class"));
         }
     }
 
